@@ -296,6 +296,10 @@ public final class PromiseTest {
         x.reach(0, 3);
         due(3, x.ofShop(0, 5), "REACH");
         due(2, x.ofShop(0, 6), "places in its land");
+        x.street(0, 1, 1);
+        x.reach(0, 4);
+        due(3, x.ofShop(0, 6), "place 0, too");
+        x.reach(0, 3);
         due(NONE, x.ofShop(0, 8), "what 8");
         due(NONE, x.ofShop(0, -1), "what -1");
         due(NONE, x.ofShop(1, 0), "no such shop");
@@ -357,6 +361,16 @@ public final class PromiseTest {
         even.street(0, 1, 1);
         even.open(0, 110);
         due(500, even.harm(0, 1, 20), "no up for a whole number");
+        BreadLands little = townOf(999, 0);
+        little.rule(0, 1);
+        little.street(0, 1, 98);
+        little.open(0, 199);
+        due(2, little.harm(0, 1, 1), "LIKE 1: 1 of 999 is more than 1 of 1000");
+        BreadLands one = townOf(1, 0);
+        one.rule(0, 1);
+        one.street(0, 1, 1);
+        one.open(0, 150);
+        due(1000, one.harm(0, 1, 1), "all of 1");
     }
 
     private static void promise14() {
@@ -413,6 +427,14 @@ public final class PromiseTest {
         due(0, x.found(1), "place 0 was told last");
         due(1000 + 800, x.best(2, 310, 889), "harm limit one less");
         due(3, x.found(0), "place 3");
+        BreadLands own = townOf(100, 0);
+        own.street(0, 1, 1);
+        own.site(1);
+        own.open(0, 110);
+        due(500, own.harm(0, 1, 20), "harm of the only shop");
+        due(1000, own.best(1, 120, 0), "harm of the owner's own shops counts nothing");
+        due(NOT, own.best(1, 220, 499), "harm of another owner's shop 0");
+        due(500, own.best(1, 220, 500), "just within told harm");
     }
 
     private static void promise16() {
@@ -496,7 +518,7 @@ public final class PromiseTest {
             due(0, x.count(7), "the tape is empty behind " + faulty[i]);
         }
         due(-100 - 120, make(new BreadLands(), 0, 0, "1+".repeat(60)), "120 bytes that end too early");
-        String[] sound = {"000000", "999999", "((((((((1))))))))", "t<5,1", "t=1,2;f>m,3;y+s", "(1)*(2)", "1;2;3", "1+(((((((1)))))))"};
+        String[] sound = {"000000", "999999", "((((((((1))))))))", "t<5,1", "t=1,2;f>m,3;y+s", "(1)*(2)", "1;2;3", "1<((((((((2)))))))),((((((((3))))))))", "1+(((((((1)))))))"};
         for (String text : sound) due(0, make(new BreadLands(), 2, 3, text), text);
     }
 
@@ -525,6 +547,11 @@ public final class PromiseTest {
         due(1, x.inForce(0, 30, 19), "as known ahead of it");
         due(2, x.inForce(1, 0, 10), "of its kind");
         due(NOT, x.inForce(2, 9999, 9999), "of its kind");
+        due(1, x.inForce(0, 9999, 15), "not the one for the latest day");
+        BreadLands one = new BreadLands();
+        make(one, CURE, 9999, "1");
+        due(NOT, one.inForce(CURE, 9998, 0), "a day ahead of its own");
+        due(0, one.inForce(CURE, 9999, 0), "number 0");
     }
 
     private static void promise20() {
@@ -685,6 +712,11 @@ public final class PromiseTest {
         due(1, x.under(0, 8), "up to a month");
         x.month(0, 4, 5, 1, 0);
         due(0, x.under(0, 8), "the last ones by their numbers");
+        BreadLands first = townOf(5);
+        first.open(0, 150);
+        first.days(90);
+        for (int m = 0; m < 3; m++) first.month(0, m, 0, 0, 1);
+        due(1, first.under(0, 2), "month 0 counts");
     }
 
     private static void promise24() {
@@ -707,7 +739,8 @@ public final class PromiseTest {
         due(10, x.count(6), "in the fund");
         due(-850, x.pay(0, 1000), "beyond it");
         due(80, x.count(6), "in the fund");
-        due(-710, x.pay(0, 0) == NO_VALUE ? x.month(0, 0, 0, 0, 0) + x.owed(0) - 140 : 0, "credit is used");
+        due(140, x.month(0, 0, 0, 0, 0), "due by month 0");
+        due(-710, x.owed(0), "credit is used");
         due(40, x.led(0, 0, 3), "credit is led likewise");
         due(120, x.count(6), "in the fund");
         x.close(0);
@@ -792,7 +825,7 @@ public final class PromiseTest {
         make(x, CURE, 0, "4");
         x.days(60);
         for (int i = 0; i < 3; i++) x.month(i, 0, 50, 0, 0);
-        due(NONE, x.ofNotice(0, 0), "none");
+        for (int what = 0; what < 4; what++) due(NONE, x.ofNotice(0, what), "none");
         due(NONE, x.ofNotice(3, 0), "no such shop");
         for (int i = 0; i < 3; i++) x.notice(i);
         int[] want = {60, 64, 0, -1};
@@ -875,8 +908,19 @@ public final class PromiseTest {
         due(6, x.ofShop(1, 7), "one of two");
         due(7, x.ofShop(2, 7), "one of two");
         due(4, x.ofShop(3, 7), "none of two");
-        x.gain(3, 999);
-        due(0, x.spend(983), "all of it");
+        x.gain(0, 2);
+        x.gain(1, 1);
+        // 1 by 3: rests 1, 2; and then 2 by 3: rest 1 for shop 0, 2 for shop 1.
+        due(982, x.spend(1), "one coin");
+        due(1, x.ofShop(0, 7), "the greatest rest: 2 of 3");
+        x.gain(0, 2);
+        x.gain(1, 1);
+        due(980, x.spend(2), "two coins");
+        due(2, x.ofShop(0, 7), "its whole part");
+        due(7, x.ofShop(1, 7), "the greatest rest: 2 of 3");
+        x.gain(0, 999);
+        due(0, x.spend(980), "all of it");
+        due(982, x.ofShop(0, 7), "all of it");
     }
 
     private static void promise31() {
@@ -915,6 +959,9 @@ public final class PromiseTest {
         due(STATE, x.carts(6), "the list is empty then, too");
         x.load(0, 6);
         due(1, x.carts(6), "just as much");
+        x.load(0, 1);
+        x.load(1, 1);
+        due(2, x.carts(1), "r 1");
         int[] loads = {3, 3, 2, 2, 2, 4, 4, 4, 6, 6};
         for (int i = 0; i < 10; i++) x.load(i, loads[i]);
         due(6, x.carts(6), "no cart has room left");
@@ -982,6 +1029,17 @@ public final class PromiseTest {
         due(NONE, x.count(-1), "what -1");
         x.days(4);
         due(0, x.count(8), "lapsed");
+        BreadLands many = townOf(5, 5, 5, 5);
+        for (int i = 0; i < 4; i++) many.open(i, 150);
+        make(many, FUND, 0, "10");
+        many.days(30);
+        for (int i = 1; i < 4; i++) {
+            many.month(i, 0, 0, 0, 0);
+            due(30, many.notice(i), "notice");
+            due(i, many.count(8), "running");
+        }
+        many.close(0);
+        due(3, many.count(2), "open ones");
         due(0, x.count(2), "closed by it");
     }
 }
