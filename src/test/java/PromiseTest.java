@@ -331,6 +331,24 @@ public final class PromiseTest {
         for (int i = 0; i < 29; i++) far.street(i, i + 1, 99);
         far.open(0, 101);
         due(0, far.foretold(0), "a pull with nothing left: all 0 gives 0");
+        BreadLands thin = new BreadLands();
+        for (int i = 0; i < 11; i++) thin.place(i == 10 ? 7 : 0);
+        for (int i = 0; i < 10; i++) thin.street(i, i + 1, 99);
+        thin.open(0, 101);
+        due(70, thin.foretold(0), "a pull of 1 alone has all");
+        BreadLands full = townOf(100, 0);
+        for (int i = 0; i < 39; i++) {
+            full.open(1, 150);
+            full.close(i);
+        }
+        full.open(0, 110);
+        due(1000, full.foretold(39), "the 40th shop");
+        full.street(0, 1, 1);
+        due(500, full.harm(39, 1, 20), "harm with 40 shops");
+        full.site(1);
+        due(1000, full.best(1, 120, 0), "best with 40 shops");
+        due(NOT, full.best(1, 220, 499), "best with 40 shops");
+        due(500, full.best(1, 220, 500), "best with 40 shops");
         BreadLands big = townOf(999);
         big.rule(0, 99);
         big.open(0, 199);
@@ -918,8 +936,8 @@ public final class PromiseTest {
         due(980, x.spend(2), "two coins");
         due(2, x.ofShop(0, 7), "its whole part");
         due(7, x.ofShop(1, 7), "the greatest rest: 2 of 3");
-        x.gain(0, 999);
-        due(0, x.spend(980), "all of it");
+        x.gain(0, 1);
+        due(0, x.spend(980), "all of it by a gain of 1");
         due(982, x.ofShop(0, 7), "all of it");
     }
 
