@@ -1,8 +1,32 @@
+import java.lang.reflect.InvocationTargetException;
+import java.lang.reflect.Method;
+import java.util.Arrays;
+import java.util.Comparator;
+
 /** Counts and prints what is not as due. */
 final class Checks {
+    private static final int MOST_MILLIS = 300000;
+
     private int made;
     private int wrong;
     private String part = "";
+
+    Checks() {
+        Thread watch = new Thread(Checks::haltLate);
+        watch.setDaemon(true);
+        watch.start();
+    }
+
+    /** A call that never ends must fail the run, not hold it up. */
+    private static void haltLate() {
+        try {
+            Thread.sleep(MOST_MILLIS);
+        } catch (InterruptedException woken) {
+            return;
+        }
+        System.out.println("not ended in time");
+        Runtime.getRuntime().halt(1);
+    }
 
     void part(String name) {
         part = name;
@@ -21,6 +45,24 @@ final class Checks {
 
     int wrong() {
         return wrong;
+    }
+
+    /** Runs all methods of a class whose names begin with p and a number: each is the test of one sentence of that promise. */
+    void runSentences(Class<?> tests) throws ReflectiveOperationException {
+        Method[] methods = tests.getDeclaredMethods();
+        Arrays.sort(methods, Comparator.comparing(Method::getName));
+        for (Method m : methods) {
+            if (!m.getName().matches("p\\d+_.*")) continue;
+            part(m.getName());
+            int before = made;
+            m.setAccessible(true);
+            try {
+                m.invoke(null);
+            } catch (InvocationTargetException thrown) {
+                holds(false, "threw " + thrown.getCause());
+            }
+            holds(made > before, "looks at something");
+        }
     }
 
     void end() {

@@ -36,6 +36,7 @@ public final class ModelTest {
 
     private void due(int want, int got, String call, int... args) {
         calls++;
+        if (calls > CALLS) return;
         if (want != got) checks.part("seed " + seed + ", call " + calls);
         checks.due(want, got, call + java.util.Arrays.toString(args));
     }

@@ -25,7 +25,7 @@ public final class PromiseTest {
 
     /** Lets days go by up to a day. */
     private static void until(BreadLands x, int day) {
-        while (x.count(3) < day) x.days(Math.min(360, day - x.count(3)));
+        for (int left = day - x.count(3); left > 0; left -= 360) x.days(Math.min(360, left));
     }
 
     /** What a text gives for shop 0 in month 0 of a chain of one shop. */
