@@ -1,6 +1,7 @@
 /** What an object shows when it is asked. Some calls of a view change the object, so each view wants an object of its own. */
 final class Picture {
-    static final int VIEWS = 7;
+    private static final int[] ROOMS = {1, 5, 6, 8, 10, 14, 20, 50, 98};
+    static final int VIEWS = 7 + ROOMS.length;
 
     private final BreadLands x;
     private final StringBuilder seen = new StringBuilder();
@@ -15,7 +16,8 @@ final class Picture {
             case 3: terms(); break;
             case 4: tape(); break;
             case 5: lists(); break;
-            default: rules(); break;
+            case 6: rules(); break;
+            default: carts(ROOMS[view - 7]); break;
         }
     }
 
@@ -103,6 +105,12 @@ final class Picture {
         for (int p : places(10)) add(x.site(p));
         add(x.best(1, 1401, 1000));
         for (int i = 0; i < 3; i++) add(x.found(i));
+    }
+
+    /** The loads on the list cannot be asked for, but a change of one shows in the carts for one of several rooms. */
+    private void carts(int room) {
+        add(x.carts(room));
+        for (int s : shops(10)) add(x.cart(s));
     }
 
     private void rules() {

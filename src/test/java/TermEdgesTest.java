@@ -205,6 +205,15 @@ public final class TermEdgesTest {
         o.told(0, x -> x.count(7), "the tape is empty then");
     }
 
+    private static void p18_fullAheadOfAFault() {
+        Office o = office(1);
+        for (int i = 0; i < 20; i++) o.terms(i % 3, 0, "1");
+        o.refused(FULL, x -> x.terms(0, 0), "an empty tape when full");
+        o.feed("1+");
+        o.refused(FULL, x -> x.terms(0, 0), "a fault when full");
+        o.told(2, x -> x.count(7), "the tape stays");
+    }
+
     private static void p18_aFaultTakesNoNumber() {
         Office o = office(1);
         o.open(0, 150);
